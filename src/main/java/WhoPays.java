@@ -631,8 +631,7 @@ public final class WhoPays {
         }
 
         private int firstOf(int figures) {
-            int scale = figures < 100 ? 10 : figures < 1000 ? 100 : 1000;
-            return figures / scale - 1;
+            return (figures < 100 ? figures / 10 : figures < 1000 ? figures / 100 : figures / 1000) - 1;
         }
 
         // a ring is walked from its last house back, as that is how its figures come off

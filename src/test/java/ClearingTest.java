@@ -163,6 +163,24 @@ public final class ClearingTest {
             check.due("help(0)", x.help(0), 0);
             check.due("help(3)", x.help(3), 0);
         });
+        check.test("promise 17: another one lacks 1", x -> {
+            x.houses(2);
+            x.owe(0, 2, 5);
+            x.owe(1, 2, 5);
+            x.cash(1, 4);
+            check.due("help(0)", x.help(0), -1);
+            x.cash(1, 5);
+            check.due("help(0)", x.help(0), 5);
+        });
+        check.test("promise 17: toll and cash stay as they are", x -> {
+            x.houses(2);
+            x.toll(5);
+            x.owe(0, 1, 20);
+            x.cash(0, 3);
+            check.due("help(0)", x.help(0), 17);
+            check.due("cashOf(0)", x.cashOf(0), 3);
+            check.due("count(1)", x.count(1), 5);
+        });
         check.test("promise 17: the most that can be needed", x -> {
             x.houses(4);
             for (int j = 1; j <= 4; j++) {

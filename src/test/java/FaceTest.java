@@ -57,6 +57,38 @@ public final class FaceTest {
             check.due("constructors", all.length, 1);
             check.due("its parameters", all[0].getParameterCount(), 0);
         });
+        check.test("no argument makes a call throw, nor do calls beyond the 512th", x -> {
+            int[] odd = {Integer.MIN_VALUE, -102, -101, -1, 0, 1, 2, 3, 4, 5, 50, 1000, Integer.MAX_VALUE};
+            for (int n = 0; n <= 5; n++) {
+                x.houses(n);
+                for (int a : odd) {
+                    for (int b : odd) {
+                        for (int c : odd) {
+                            x.owe(a, b, c);
+                            x.pays(a, b, c);
+                        }
+                        x.cash(a, b);
+                        x.debt(a, b);
+                        x.share(a, b);
+                        x.gross(a, b);
+                        x.left(a, b);
+                    }
+                    x.toll(a);
+                    x.cashOf(a);
+                    x.owes(a);
+                    x.falls(a);
+                    x.lost(a);
+                    x.drag(a);
+                    x.help(a);
+                    x.net(a);
+                    x.ring(a);
+                    x.count(a);
+                    x.digest();
+                }
+                x.days();
+                x.cancelAll();
+            }
+        });
         check.end();
     }
 }
