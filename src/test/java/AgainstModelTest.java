@@ -10,9 +10,10 @@ public final class AgainstModelTest {
             int run = seed;
             check.test("run " + run, x -> runOfCalls(check, x, new Model(), new Random(run)));
         }
-        check.test("help by trial of every number", x -> {
+        check.test("help by trial of every number", unused -> {
             Random random = new Random(7);
             for (int k = 0; k < 6; k++) {
+                WhoPays x = new WhoPays();
                 Model m = new Model();
                 x.houses(4);
                 m.houses(4);
@@ -22,9 +23,10 @@ public final class AgainstModelTest {
                 }
             }
         });
-        check.test("the greatest numbers below", x -> {
+        check.test("the greatest numbers below", unused -> {
             Random random = new Random(11);
             for (int k = 0; k < 300; k++) {
+                WhoPays x = new WhoPays();
                 Model m = new Model();
                 x.houses(4);
                 m.houses(4);
@@ -49,7 +51,8 @@ public final class AgainstModelTest {
     private static void runOfCalls(Check check, WhoPays x, Model m, Random random) {
         int mostCash = new int[] {20, 60, 150, 1000}[random.nextInt(4)];
         int mostDebt = new int[] {2, 15, 50}[random.nextInt(3)];
-        for (int call = 0; call < 512; call++) {
+        // with the clearing at its end a run stays within the 512 calls that are promised
+        for (int call = 0; call < 430; call++) {
             int i = random.nextInt(30) == 0 ? odd(random) : random.nextInt(m.n);
             int j = random.nextInt(30) == 0 ? odd(random) : random.nextInt(m.n + 1);
             int part = random.nextInt(30) == 0 ? odd(random) : random.nextInt(2);
